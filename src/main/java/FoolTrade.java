@@ -422,14 +422,19 @@ public final class FoolTrade {
     }
 
     public int wits(int person) {
-        return noPerson(person) ? NONE : sight.possible(now, person);
+        if (noPerson(person)) {
+            return NONE;
+        }
+        sight.foresee(now, person, sight.farthestSeen());
+        return sight.possible(now);
     }
 
     public int tells(int person, int what) {
-        if (noPerson(person) || what < 0 || what > 2 || beyond(1) || !sight.findTelling(now, person)) {
+        if (noPerson(person) || what < 0 || what > 2 || beyond(1)) {
             return NONE;
         }
-        return sight.telling[what];
+        sight.foresee(now, person, SEEN_AHEAD);
+        return sight.findTelling(now) ? sight.telling[what] : NONE;
     }
 
     public boolean teach(int person, int wits) {
@@ -447,8 +452,7 @@ public final class FoolTrade {
             return refuse(REFUSED_PERSON);
         }
         past.remember(now);
-        now.place[person] = 1 - now.place[person];
-        now.away[person] = 0;
+        now.cross(person);
         return now.place[person];
     }
 
@@ -1005,15 +1009,22 @@ public final class FoolTrade {
                 return readVillage(tokens);
             }
             if (word == PERSON) {
-                return readPerson(tokens);
+                return readPerson(tokens) && readTraits(tokens);
             }
             if (word == SNOW) {
                 return readSnow(tokens);
             }
-            if (word >= SENDS && word <= STAYS) {
-                return readRule(tokens, grammar, word - SENDS);
+            if (word < SENDS || word > STAYS) {
+                return tokens.failHere();
             }
-            return tokens.failHere();
+            int rule = word - SENDS;
+            return beginRule(tokens, grammar, rule)
+                && (isTest(rule) ? grammar.readTest() : grammar.readSum())
+                && endRule(grammar, rule);
+        }
+
+        private static boolean isTest(int rule) {
+            return rule == RULE_GOOSE || rule == RULE_STAYS;
         }
 
         private boolean readVillage(Tokens tokens) {
@@ -1043,7 +1054,7 @@ public final class FoolTrade {
                 return tokens.fail(FAULT_NAME, tokens.start);
             }
             tokens.next();
-            return readTraits(tokens);
+            return true;
         }
 
         private boolean readTraits(Tokens tokens) {
@@ -1071,19 +1082,19 @@ public final class FoolTrade {
             return true;
         }
 
-        private boolean readRule(Tokens tokens, Grammar grammar, int rule) {
+        private boolean beginRule(Tokens tokens, Grammar grammar, int rule) {
             if (from[rule] != NONE) {
                 return tokens.fail(FAULT_MANY, tokens.start);
             }
             tokens.next();
             grammar.begin(code, size, rule == RULE_FIGHTS ? SCOPE_FIGHTS : SCOPE_PERSON, false);
-            boolean test = rule == RULE_GOOSE || rule == RULE_STAYS;
-            if (test ? !grammar.readTest() : !grammar.readSum()) {
-                return false;
-            }
+            return true;
+        }
+
+        private boolean endRule(Grammar grammar, int rule) {
             from[rule] = size;
-            to[rule] = grammar.size;
             size = grammar.size;
+            to[rule] = size;
             return true;
         }
 
@@ -1156,26 +1167,17 @@ public final class FoolTrade {
             int last = Math.min(to, code.length);
             for (int i = Math.max(0, from); i < last; i++) {
                 int item = code[i];
-                if (item < SIGNS) {
-                    if (top >= STACK) {
-                        return 0;
-                    }
+                if (item < SIGNS && top < STACK) {
                     stack[top] = item < SLOT ? item : slotValue(item - SLOT);
                     top++;
-                } else if (item < PAIR_SIGNS) {
-                    if (top < 1) {
-                        return 0;
-                    }
+                } else if (item >= SIGNS && item < PAIR_SIGNS && top > 0) {
                     stack[top - 1] = ofOne(item, stack[top - 1]);
-                } else {
-                    if (top < 2) {
-                        return 0;
-                    }
+                } else if (item >= PAIR_SIGNS && top > 1) {
                     top--;
                     stack[top - 1] = ofTwo(item, stack[top - 1], stack[top]);
                 }
             }
-            return top < 1 ? 0 : stack[top - 1];
+            return top > 0 ? stack[top - 1] : 0;
         }
 
         private int slotValue(int slot) {
@@ -1184,7 +1186,7 @@ public final class FoolTrade {
 
         private int ofOne(int sign, int value) {
             if (sign == SIGN_NOT) {
-                return bit(value == 0);
+                return value == 0 ? 1 : 0;
             }
             if (value < 0 || value >= VILLAGES) {
                 return 0;
@@ -1193,24 +1195,22 @@ public final class FoolTrade {
         }
 
         private static int ofTwo(int sign, int one, int other) {
+            long result = 0L;
             switch (sign) {
-                case SIGN_PLUS: return bound((long) one + other);
-                case SIGN_MINUS: return bound((long) one - other);
-                case SIGN_TIMES: return bound((long) one * other);
-                case SIGN_OVER: return other == 0 ? 0 : Math.floorDiv(one, other);
-                case SIGN_MIN: return Math.min(one, other);
-                case SIGN_MAX: return Math.max(one, other);
-                case SIGN_LESS: return bit(one < other);
-                case SIGN_MORE: return bit(one > other);
-                case SIGN_SAME: return bit(one == other);
-                case SIGN_AND: return one & other;
-                case SIGN_OR: return one | other;
-                default: return 0;
+                case SIGN_PLUS: result = (long) one + other; break;
+                case SIGN_MINUS: result = (long) one - other; break;
+                case SIGN_TIMES: result = (long) one * other; break;
+                case SIGN_OVER: result = other == 0 ? 0 : Math.floorDiv(one, other); break;
+                case SIGN_MIN: result = Math.min(one, other); break;
+                case SIGN_MAX: result = Math.max(one, other); break;
+                case SIGN_LESS: result = one < other ? 1 : 0; break;
+                case SIGN_MORE: result = one > other ? 1 : 0; break;
+                case SIGN_SAME: result = one == other ? 1 : 0; break;
+                case SIGN_AND: result = one & other; break;
+                case SIGN_OR: result = one | other; break;
+                default: break;
             }
-        }
-
-        private static int bound(long value) {
-            return (int) Math.max(-TOP_SUM, Math.min(TOP_SUM, value));
+            return (int) Math.max(-TOP_SUM, Math.min(TOP_SUM, result));
         }
     }
 
@@ -1538,6 +1538,10 @@ public final class FoolTrade {
             this.course = course;
         }
 
+        private boolean isPair(World world, int one, int other) {
+            return course.canSend(world, one, 0) && course.canSend(world, other, 1);
+        }
+
         private int harvestBy(World world, int one, int other, int village) {
             scratch.take(world);
             scratch.cross(one);
@@ -1549,41 +1553,6 @@ public final class FoolTrade {
             return harvestBy(world, one, other, village) - course.nextHarvest(world, village);
         }
 
-        boolean findBargain(World world) {
-            less = 0;
-            for (int one = 0; one < treaty.people; one++) {
-                for (int other = 0; other < treaty.people; other++) {
-                    if (course.canSend(world, one, 0) && course.canSend(world, other, 1)) {
-                        weigh(world, one, other);
-                    }
-                }
-            }
-            return less > 0;
-        }
-
-        private void weigh(World world, int one, int other) {
-            int least = Math.min(gainOf(world, one, other, 0), gainOf(world, one, other, 1));
-            if (least > less) {
-                less = least;
-                found[0] = one;
-                found[1] = other;
-            }
-        }
-
-        boolean findRest(World world) {
-            fillHarvests(world);
-            for (int one = 0; one < treaty.people; one++) {
-                for (int other = 0; other < treaty.people; other++) {
-                    if (course.canSend(world, one, 0) && course.canSend(world, other, 1) && rests(world, one, other)) {
-                        found[0] = one;
-                        found[1] = other;
-                        return true;
-                    }
-                }
-            }
-            return false;
-        }
-
         private static int cell(int one, int other, int village) {
             return (one * MOST_PEOPLE + other) * VILLAGES + village;
         }
@@ -1591,12 +1560,47 @@ public final class FoolTrade {
         private void fillHarvests(World world) {
             for (int one = 0; one < treaty.people; one++) {
                 for (int other = 0; other < treaty.people; other++) {
-                    if (course.canSend(world, one, 0) && course.canSend(world, other, 1)) {
+                    if (isPair(world, one, other)) {
                         harvests[cell(one, other, 0)] = harvestBy(world, one, other, 0);
                         harvests[cell(one, other, 1)] = harvestBy(world, one, other, 1);
                     }
                 }
             }
+        }
+
+        boolean findBargain(World world) {
+            fillHarvests(world);
+            int first = course.nextHarvest(world, 0);
+            int second = course.nextHarvest(world, 1);
+            less = 0;
+            for (int one = 0; one < treaty.people; one++) {
+                for (int other = 0; other < treaty.people; other++) {
+                    int least = Math.min(harvests[cell(one, other, 0)] - first, harvests[cell(one, other, 1)] - second);
+                    if (isPair(world, one, other) && least > less) {
+                        less = least;
+                        choose(one, other);
+                    }
+                }
+            }
+            return less > 0;
+        }
+
+        private void choose(int one, int other) {
+            found[0] = one;
+            found[1] = other;
+        }
+
+        boolean findRest(World world) {
+            fillHarvests(world);
+            for (int one = 0; one < treaty.people; one++) {
+                for (int other = 0; other < treaty.people; other++) {
+                    if (isPair(world, one, other) && rests(world, one, other)) {
+                        choose(one, other);
+                        return true;
+                    }
+                }
+            }
+            return false;
         }
 
         private boolean rests(World world, int one, int other) {
@@ -1650,9 +1654,13 @@ public final class FoolTrade {
             for (int q = 0; q < ALL_QUESTIONS; q++) {
                 parts[q] = 0L;
             }
+            int passed = 0;
+            for (int p = 0; p < treaty.people; p++) {
+                passed |= bit(course.wouldPass(world, p)) << p;
+            }
             for (int p = 0; p < treaty.people; p++) {
                 for (int r = 0; r < treaty.people; r++) {
-                    if (course.wouldPass(world, p) && !course.wouldPass(world, r)) {
+                    if ((passed >> p & 1) != 0 && (passed >> r & 1) == 0) {
                         addPair(world, p, r);
                     }
                 }
@@ -1729,12 +1737,25 @@ public final class FoolTrade {
             return (wits * (SEEN_AHEAD + 1) + ahead) * VILLAGES + village;
         }
 
-        /** Harvests up to a YEAR AHEAD, by each wits that the person might have. */
-        private void foresee(World world, int person, int farthest) {
+        int farthestSeen() {
+            int farthest = 0;
+            for (int i = 0; i < rows; i++) {
+                farthest = Math.max(farthest, seen[i * ROW_BYTES]);
+            }
+            return farthest;
+        }
+
+        private static int farthestYear(World world) {
+            return Math.min(SEEN_AHEAD, LAST_YEAR - world.year);
+        }
+
+        /** Harvests up to a YEAR AHEAD, as far as there are YEARS, by each wits that the person might have. */
+        void foresee(World world, int person, int wanted) {
+            int farthest = Math.min(wanted, farthestYear(world));
             for (int w = 0; w < WITS_KINDS; w++) {
                 scratch.take(world);
                 scratch.wits[person] = w;
-                for (int ahead = 0; ahead <= farthest && ahead <= SEEN_AHEAD; ahead++) {
+                for (int ahead = 0; ahead <= farthest; ahead++) {
                     harvests[cell(w, ahead, 0)] = scratch.harvest[0];
                     harvests[cell(w, ahead, 1)] = scratch.harvest[1];
                     if (ahead < farthest) {
@@ -1744,15 +1765,11 @@ public final class FoolTrade {
             }
         }
 
-        int possible(World world, int person) {
-            int farthest = 0;
-            for (int i = 0; i < rows; i++) {
-                farthest = Math.max(farthest, seen[i * ROW_BYTES]);
-            }
-            if (world.year + farthest > LAST_YEAR) {
+        /** The wits, a bit each, by which all is as SEEN; foresee() has gone as far as that. */
+        int possible(World world) {
+            if (farthestSeen() > farthestYear(world)) {
                 return 0;
             }
-            foresee(world, person, farthest);
             int bits = 0;
             for (int w = 0; w < WITS_KINDS; w++) {
                 bits |= bit(fits(w)) << w;
@@ -1770,13 +1787,13 @@ public final class FoolTrade {
             return true;
         }
 
-        boolean findTelling(World world, int person) {
-            int bits = possible(world, person);
-            int farthest = Math.min(SEEN_AHEAD, LAST_YEAR - world.year);
+        /** Whether a YEAR AHEAD tells most; foresee() has gone as far as it can. */
+        boolean findTelling(World world) {
+            int bits = possible(world);
+            int farthest = farthestYear(world);
             if (bits == 0 || farthest < 1) {
                 return false;
             }
-            foresee(world, person, farthest);
             telling[2] = WITS_KINDS + 1;
             for (int ahead = 1; ahead <= farthest; ahead++) {
                 for (int v = 0; v < VILLAGES; v++) {
@@ -1794,17 +1811,21 @@ public final class FoolTrade {
         private int mostLeft(int bits, int ahead, int village) {
             int most = 0;
             for (int w = 0; w < WITS_KINDS; w++) {
-                int alike = 0;
-                for (int u = 0; u < WITS_KINDS; u++) {
-                    if ((bits >> u & 1) != 0 && harvests[cell(u, ahead, village)] == harvests[cell(w, ahead, village)]) {
-                        alike++;
-                    }
-                }
                 if ((bits >> w & 1) != 0) {
-                    most = Math.max(most, alike);
+                    most = Math.max(most, countAlike(bits, ahead, village, harvests[cell(w, ahead, village)]));
                 }
             }
             return most;
+        }
+
+        private int countAlike(int bits, int ahead, int village, int harvest) {
+            int alike = 0;
+            for (int w = 0; w < WITS_KINDS; w++) {
+                if ((bits >> w & 1) != 0 && harvests[cell(w, ahead, village)] == harvest) {
+                    alike++;
+                }
+            }
+            return alike;
         }
     }
 
@@ -1821,12 +1842,9 @@ public final class FoolTrade {
             }
             tokens.next();
             grammar.begin(code, 0, SCOPE_QUESTION, true);
-            boolean test = verb <= OFTEN;
-            if (test ? !grammar.readTest() : !grammar.readSum()) {
-                return false;
-            }
+            boolean whole = verb <= OFTEN ? grammar.readTest() : grammar.readSum();
             size = grammar.size;
-            return tokens.kind == KIND_END || tokens.failHere();
+            return whole && (tokens.kind == KIND_END || tokens.failHere());
         }
 
         long answer(Course course, World world) {
