@@ -136,7 +136,7 @@ public final class FoolTrade {
     private final World scratch = new World();
     private final Past past = new Past();
     private final Pairs pairs = new Pairs(terms, course);
-    private final Exam questions = new Exam(terms, course);
+    private final Exam examiner = new Exam(terms, course);
     private final Sight sight = new Sight(course);
     private final int[] picture = new int[LONGEST_IMAGE];
     private int pictured;
@@ -366,13 +366,13 @@ public final class FoolTrade {
     }
 
     public int exam(int k) {
-        if (noTreaty() || k < NONE || k >= Exam.LONGEST || !questions.find(now)) {
+        if (noTreaty() || k < NONE || k >= Exam.LONGEST || !examiner.find(now)) {
             return NONE;
         }
         if (k == NONE) {
-            return questions.count;
+            return examiner.count;
         }
-        return k < questions.count ? questions.told(k) : NONE;
+        return k < examiner.count ? examiner.told(k) : NONE;
     }
 
     public int feign(int person) {
@@ -845,7 +845,25 @@ public final class FoolTrade {
                 tokens.next();
                 return done(1);
             }
-            return sum(open) && comparison(open);
+            if (!sum(open)) {
+                return false;
+            }
+            int sign = comparisonHere();
+            if (sign == NONE) {
+                return tokens.failHere();
+            }
+            tokens.next();
+            return sum(open) && done(sign);
+        }
+
+        private int comparisonHere() {
+            if (tokens.isSign('<')) {
+                return SIGN_LESS;
+            }
+            if (tokens.isSign('>')) {
+                return SIGN_MORE;
+            }
+            return tokens.isSign('=') ? SIGN_SAME : NONE;
         }
 
         /** Takes what opens a level, if there are not too many open. */
@@ -855,21 +873,6 @@ public final class FoolTrade {
             }
             tokens.next();
             return true;
-        }
-
-        private boolean comparison(int open) {
-            int sign = NONE;
-            if (tokens.isSign('<')) {
-                sign = SIGN_LESS;
-            } else if (tokens.isSign('>')) {
-                sign = SIGN_MORE;
-            } else if (tokens.isSign('=')) {
-                sign = SIGN_SAME;
-            } else {
-                return tokens.failHere();
-            }
-            tokens.next();
-            return sum(open) && done(sign);
         }
 
         private boolean sum(int open) {
