@@ -436,9 +436,14 @@ public final class PromisesTest {
         for (int i = 0; i < 8; i++) {
             alike += "person p" + (char) ('a' + i) + " of a wits " + i + " oath 0 cheer 0;";
         }
-        due("4 are needed", Trial.by(alike + "goose wits=0 or wits=2 or wits=4;").exam(-1), NONE);
+        due("4 are needed", Trial.by(alike + "goose wits=0 or wits=2 or wits>3;").exam(-1), NONE);
+        due("4 are needed", Trial.by(alike + "goose wits=0 or wits=2 or wits>3;").exam(0), NONE);
         due("3 are enough", Trial.by(alike + "goose wits=1 or wits>2;").exam(-1), 3);
         due("the third", Trial.by(alike + "goose wits=1 or wits>2;").exam(2), 3);
+        t = Trial.by(LAND + "person p of a wits 0 oath 0 cheer 0;person q of a wits 9 oath 0 cheer 0;");
+        due("wits less than 1", t.exam(0), 1);
+        t.teach(0, 1);
+        due("that tells no more", t.exam(0), 2);
         due("exam(3)", Trial.by(alike + "goose wits=1 or wits>2;").exam(3), NONE);
     }
 
@@ -540,7 +545,9 @@ public final class PromisesTest {
         due("refused", t.status(1), before + 8);
         due("the tape went", t.feed(0, 0, 0, 0, 0), 20);
         due("all stays", t.wits(1), 15);
-        due("16 rows", Trial.see(Trial.by(FOUR), new int[64]), 16);
+        FoolTrade many = Trial.by(FOUR.replace("harvest 10", "harvest 0"));
+        due("16 rows", Trial.see(many, new int[64]), 16);
+        due("by 16 rows", many.wits(0), 1023);
         due("without a treaty", Trial.see(new FoolTrade(), 1, 0, 0, 7), NONE);
     }
 
