@@ -46,33 +46,6 @@ public final class PromisesTest {
         TRIAL.due(call, got, want);
     }
 
-    /** An object of the treaty put to a year by an image, all at home. */
-    private static FoolTrade inYear(String text, int year) {
-        FoolTrade t = Trial.by(text);
-        int[] row = imageOf(t);
-        row[0] = year >> 8;
-        row[1] = year & 255;
-        due("on(), year " + year, Trial.on(t, checked(row)), true);
-        return t;
-    }
-
-    private static int[] imageOf(FoolTrade t) {
-        int[] row = new int[t.image()];
-        for (int k = 0; k < row.length; k++) {
-            row[k] = t.octet(k);
-        }
-        return row;
-    }
-
-    private static int[] checked(int... row) {
-        int c = 199;
-        for (int k = 0; k < row.length - 1; k++) {
-            c = (3 * c + row[k]) % 251;
-        }
-        row[row.length - 1] = c;
-        return row;
-    }
-
     // Promise 1
     private static void newObject() {
         FoolTrade t = new FoolTrade();
@@ -126,7 +99,7 @@ public final class PromisesTest {
 
     private static int checkOf(int... row) {
         int[] longer = java.util.Arrays.copyOf(row, row.length + 1);
-        return checked(longer)[row.length];
+        return Trial.checked(longer)[row.length];
     }
 
     // Promises 4, 5; the faults have a test of their own
@@ -330,7 +303,7 @@ public final class PromisesTest {
         due("lives(0, 61)", t.lives(0, 61), NONE);
         due("lives(0, -1)", t.lives(0, -1), NONE);
         due("lives(4, 1)", t.lives(4, 1), NONE);
-        FoolTrade old = inYear(FOUR, 990);
+        FoolTrade old = Trial.inYear(FOUR, 990);
         due("up to year 999", old.later(0, 9, 0), 19);
         due("beyond year 999", old.later(0, 10, 0), NONE);
         due("lives up to year 999", old.lives(0, 9), 0);
@@ -353,8 +326,8 @@ public final class PromisesTest {
         String late = FOUR + "goose year > YEAR and wits < 5 or year > YEAR;stays all;";
         due("60 at most", Trial.by(late.replace("YEAR", "57")).shortage(0), 60);
         due("61 is too late", Trial.by(late.replace("YEAR", "58")).shortage(0), NONE);
-        due("up to year 999", inYear(FOUR + "goose all;stays all;", 997).shortage(0), 2);
-        due("not beyond year 999", inYear(FOUR + "goose all;stays all;", 998).shortage(0), NONE);
+        due("up to year 999", Trial.inYear(FOUR + "goose all;stays all;", 997).shortage(0), 2);
+        due("not beyond year 999", Trial.inYear(FOUR + "goose all;stays all;", 998).shortage(0), NONE);
     }
 
     // Promise 15
@@ -372,8 +345,8 @@ public final class PromisesTest {
         due("gain(0, 4, 0)", t.gain(0, 4, 0), NOTHING);
         t.bring(0);
         due("p lives away", t.gain(0, 2, 0), NOTHING);
-        due("year 998", inYear(FOUR, 998).gain(0, 2, 0), -1);
-        due("beyond year 999", inYear(FOUR, 999).gain(0, 2, 0), NOTHING);
+        due("year 998", Trial.inYear(FOUR, 998).gain(0, 2, 0), -1);
+        due("beyond year 999", Trial.inYear(FOUR, 999).gain(0, 2, 0), NOTHING);
     }
 
     // Promises 16, 17
@@ -398,9 +371,9 @@ public final class PromisesTest {
         t.bring(1);
         due("q is away: p goes", t.bargain(0), 0);
         due("the less of 6 and 9", t.bargain(2), 6);
-        due("beyond year 999", inYear(both, 999).bargain(0), NONE);
-        due("beyond year 999", inYear(both, 999).rest(0), NONE);
-        due("year 998", inYear(both, 998).bargain(0), 1);
+        due("beyond year 999", Trial.inYear(both, 999).bargain(0), NONE);
+        due("beyond year 999", Trial.inYear(both, 999).rest(0), NONE);
+        due("year 998", Trial.inYear(both, 998).bargain(0), 1);
         due("of like ones the first pair", Trial.by(both.replace("cheer 6", "cheer 9").replace("wits 5", "wits 9")).bargain(0), 0);
         due("of like ones the first pair", Trial.by(both.replace("cheer 6", "cheer 9").replace("wits 5", "wits 9")).bargain(1), 2);
         due("nobody of b", Trial.by(LAND + "person p of a wits 0 oath 0 cheer 6;").rest(0), NONE);
@@ -462,8 +435,8 @@ public final class PromisesTest {
         due("by none", Trial.by(FOUR + "goose not all;").feign(0), NONE);
         due("of like ones the less", Trial.by(LAND + "person p of a wits 5 oath 0 cheer 0;goose not wits=5;").feign(0), 4);
         due("nearest, above", Trial.by(LAND + "person p of a wits 5 oath 0 cheer 0;goose wits<2 or wits>7;").feign(0), 8);
-        due("year 998", inYear(FOUR, 998).feign(0), 3);
-        due("beyond year 999", inYear(FOUR, 999).feign(0), NONE);
+        due("year 998", Trial.inYear(FOUR, 998).feign(0), 3);
+        due("beyond year 999", Trial.inYear(FOUR, 999).feign(0), NONE);
     }
 
     // Promise 20
@@ -477,8 +450,8 @@ public final class PromisesTest {
         due("worth(0, 61)", t.worth(0, 61), NOTHING);
         due("worth(0, -1)", t.worth(0, -1), NOTHING);
         due("worth(2, 1)", t.worth(2, 1), NOTHING);
-        due("worth up to year 999", inYear(FOUR, 996).worth(0, 3), -3);
-        due("worth beyond year 999", inYear(FOUR, 996).worth(0, 4), NOTHING);
+        due("worth up to year 999", Trial.inYear(FOUR, 996).worth(0, 3), -3);
+        due("worth beyond year 999", Trial.inYear(FOUR, 996).worth(0, 4), NOTHING);
         t.bring(3);
         // s comes home in the autumn, sent or not: 5 more for a in the first year both ways, 2 and 1 less then.
         due("one away comes home when nobody is sent, too", t.worth(0, 2), -2);
@@ -519,16 +492,16 @@ public final class PromisesTest {
         t.years(1);
         due("rows stay, by the year of now", t.has(6), 1);
         due("999 years ahead", Trial.see(t, 30, 0, 3, 231), 1);
-        FoolTrade old = inYear(FOUR, 998);
+        FoolTrade old = Trial.inYear(FOUR, 998);
         Trial.see(old, 1, 0, 0, 11);
         due("up to year 999", old.wits(1), 1 << 7);
         Trial.see(old, 2, 0, 0, 12);
         due("beyond year 999 by none", old.wits(1), 0);
-        FoolTrade last = inYear(FOUR, 999);
+        FoolTrade last = Trial.inYear(FOUR, 999);
         due("no year comes", last.tells(1, 0), NONE);
         due("all in year 999", last.wits(1), 1023);
         // Two years are there, and in the second harvests part: later ones are not looked at.
-        FoolTrade two = inYear(FOUR.replace("wits 7", "wits 9") + "does year/998*wits;sends 9;goose all;", 997);
+        FoolTrade two = Trial.inYear(FOUR.replace("wits 7", "wits 9") + "does year/998*wits;sends 9;goose all;", 997);
         due("the second year tells", two.tells(1, 0), 2);
     }
 
@@ -592,7 +565,7 @@ public final class PromisesTest {
         due("year", t.has(2), 101);
         due("harvest of b", t.village(1, 0), 424);
         due("without a treaty", new FoolTrade().years(1), NONE);
-        FoolTrade old = inYear(FOUR, 990);
+        FoolTrade old = Trial.inYear(FOUR, 990);
         due("beyond year 999", old.years(10), NONE);
         due("nothing is done", old.has(2), 990);
         due("up to year 999", old.years(9), 9);
@@ -804,7 +777,7 @@ public final class PromisesTest {
         t.years(100);
         t.years(100);
         due("image()", t.image(), 15);
-        int[] want = checked(1, 44, 3, 231, 99, 1, 0, 0, 9, 1, 99, 0, 0, 0, 0);
+        int[] want = Trial.checked(1, 44, 3, 231, 99, 1, 0, 0, 9, 1, 99, 0, 0, 0, 0);
         for (int k = 0; k < 15; k++) {
             due("octet(" + k + ")", t.octet(k), want[k]);
         }
@@ -830,7 +803,7 @@ public final class PromisesTest {
         t.years(2);
         Trial.see(t, 0, 0, 0, 1);
         int[] row = {3, 231, 3, 231, 99, 0, 0, 0, 9, 1, 99, 0, 0, 0, 2, 1, 0, 4, 0, 0, 0};
-        due("on()", Trial.on(t, checked(row)), true);
+        due("on()", Trial.on(t, Trial.checked(row)), true);
         due("year", t.has(2), 999);
         due("nothing is kept", t.has(5), 0);
         due("nothing can be undone", t.undo(), false);
@@ -849,14 +822,14 @@ public final class PromisesTest {
         for (int[] w : wrong) {
             int[] other = row.clone();
             other[w[0]] = w[1];
-            due("byte " + w[0] + " is " + w[1], Trial.on(t, checked(other)), false);
+            due("byte " + w[0] + " is " + w[1], Trial.on(t, Trial.checked(other)), false);
             refused++;
         }
         int[] off = row.clone();
         off[20] ^= 1;
         due("a wrong last byte", Trial.on(t, off), false);
         due("a byte too many", Trial.on(t, java.util.Arrays.copyOf(row, 22)), false);
-        due("a byte too few", Trial.on(t, checked(java.util.Arrays.copyOf(row, 20))), false);
+        due("a byte too few", Trial.on(t, Trial.checked(java.util.Arrays.copyOf(row, 20))), false);
         due("none", Trial.on(t), false);
         due("refused", t.status(5), refused + 4);
         due("the tape went", t.feed(0, 0, 0, 0, 0), 20);
@@ -869,7 +842,7 @@ public final class PromisesTest {
         FoolTrade t = Trial.by(FOUR + "stays all;");
         t.years(3);
         t.teach(1, 2);
-        int[] row = imageOf(t);
+        int[] row = Trial.imageOf(t);
         FoolTrade u = Trial.by(FOUR + "stays all;");
         due("on()", Trial.on(u, row), true);
         for (int p = 0; p < 4; p++) {

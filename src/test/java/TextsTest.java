@@ -16,19 +16,11 @@ public final class TextsTest {
     }
 
     private static void fault(int kind, String marked) {
-        String text = marked.replace("^", "");
-        FoolTrade t = new FoolTrade();
-        TRIAL.due("treaty() of " + text, Trial.treaty(t, text), -1);
-        TRIAL.due("fault(0) of " + text, t.fault(0), kind);
-        TRIAL.due("fault(1) of " + text, t.fault(1), marked.indexOf('^'));
-        TRIAL.due("status(1) of " + text, t.status(1), 1);
+        TRIAL.treatyFault(kind, marked);
     }
 
     private static void whole(int statements, String text) {
-        FoolTrade t = new FoolTrade();
-        TRIAL.due("treaty() of " + text, Trial.treaty(t, text), statements);
-        TRIAL.due("fault(0) of " + text, t.fault(0), 0);
-        TRIAL.due("fault(1) of " + text, t.fault(1), -1);
+        TRIAL.wholeTreaty(statements, text);
     }
 
     private static void wholeTreaties() {
@@ -217,12 +209,7 @@ public final class TextsTest {
     }
 
     private static void asked(int kind, String marked) {
-        String text = marked.replace("^", "");
-        FoolTrade t = Trial.by(LAND + "person p" + TRAITS);
-        TRIAL.due("ask() " + text, Trial.ask(t, text), FoolTrade.NOTHING);
-        TRIAL.due("fault(0) of " + text, t.fault(0), kind);
-        TRIAL.due("fault(1) of " + text, t.fault(1), marked.indexOf('^'));
-        TRIAL.due("status(1) of " + text, t.status(1), 0);
+        TRIAL.questionFault(kind, Trial.by(LAND + "person p" + TRAITS), marked);
     }
 
     private static void questionFaults() {
