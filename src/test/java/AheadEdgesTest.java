@@ -202,6 +202,20 @@ public final class AheadEdgesTest {
         dueBargain("nobody passes", Trial.by(like + "goose not all;"), 0, 2, 4);
         dueBargain("nobody of b", Trial.by(LAND + P + Q + TRADE), NONE, NONE, NONE);
         dueBargain("nobody", Trial.by(LAND), NONE, NONE, NONE);
+        TRIAL.about("III: a BARGAIN of eight, whoever is told first");
+        String eight = LAND;
+        for (int i = 0; i < 8; i++) {
+            eight += one("p" + (char) ('a' + i), i % 2 == 0 ? "b" : "a", i % 2 == 0 ? i : 0, 0, i % 2 == 0 ? 0 : i);
+        }
+        dueBargain("the last of both", Trial.by(eight + TRADE), 7, 6, 6);
+        dueBargain("the first of b", Trial.by(LAND + one("r", "b", 9, 0, 0) + one("s", "b", 8, 0, 0) + one("p", "a", 0, 0, 9) + TRADE), 2, 0, 9);
+        dueRest("of eight the last of both", Trial.by(eight.replace("harvest 10", "harvest 100") + "does 0-wits-cheer;"), 7, 6);
+        dueRest("of eight the first of both", Trial.by(eight + "does wits+cheer;"), 1, 0);
+        dueRest("of eight, all alike, the first of both", Trial.by(eight + "does 3;"), 1, 0);
+        FoolTrade some = Trial.by(eight + "does wits+cheer;");
+        some.bring(0);
+        some.bring(1);
+        dueRest("of those who are left", some, 3, 2);
         TRIAL.about("bargain: NONE without one, beyond YEAR 999, or for others");
         for (int what : new int[] {-1, 3, Integer.MIN_VALUE, Integer.MAX_VALUE}) {
             due("bargain(" + what + ")", Trial.by(like).bargain(what), NONE);
@@ -299,6 +313,8 @@ public final class AheadEdgesTest {
         t.bring(1);
         due("one in a, one in b, of other wits", t.exam(NONE), 1);
         due("wits less than 2", t.exam(0), 2);
+        t.bring(1);
+        due("both in a again", t.exam(NONE), 0);
         TRIAL.about("exam: NONE without a treaty; in the last YEAR it is as ever");
         noExam("without a treaty", new FoolTrade());
         due("in YEAR 999", Trial.inYear(FOUR, 999).exam(0), 4);
@@ -363,6 +379,8 @@ public final class AheadEdgesTest {
         away.bring(3);
         due("those away come home both ways", away.worth(0, 9), 0);
         due("without DRAWS", Trial.by(FOUR + "snow 100;").worth(0, 7), -7);
+        due("with nobody SENT the YEARS go on", Trial.by(FOUR + "goose not all;does year;").worth(0, 9), 0);
+        due("with nobody SENT quarrels go on", Trial.by(FOUR + "goose not all;fights quarrel+1;does quarrel;").worth(0, 9), 0);
         TRIAL.about("worth: NOTHING when there is none such, or n can't be");
         for (int n : new int[] {0, -1, 61, Integer.MIN_VALUE, Integer.MAX_VALUE}) {
             due("worth(0, " + n + ")", t.worth(0, n), NOTHING);

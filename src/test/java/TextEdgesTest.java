@@ -66,6 +66,15 @@ public final class TextEdgesTest {
         whole(3, LAND + "snow 1;");
         whole(10, LAND + people(8));
         TRIAL.due("a treaty of 1600 bytes", whole(2, " ".repeat(1600 - LAND.length()) + LAND).has(0), 2);
+        TRIAL.about("treaty: the longest SUMS, one treaty behind another");
+        String head = LAND + people(1) + "does 1";
+        String longest = head + "+1".repeat((1599 - head.length()) / 2) + ";";
+        FoolTrade t = new FoolTrade();
+        for (int i = 0; i < 5; i++) {
+            TRIAL.due("treaty() " + i + " of " + longest.length() + " bytes", Trial.treaty(t, longest), 4);
+            TRIAL.due("does(0, 0) " + i, t.does(0, 0), 1 + (1599 - head.length()) / 2);
+            TRIAL.due("the default goose", t.person(0, 6), 1);
+        }
     }
 
     private static void villages() {
@@ -170,6 +179,9 @@ public final class TextEdgesTest {
         fault(1, LAND + "snow ^;");
         TRIAL.about("I: snow, the last one counts, 0 without");
         TRIAL.due("without", whole(2, LAND).chance(100), 0);
+        TRIAL.due("without, by the draw 0", bySeed42(LAND), 0);
+        TRIAL.due("0, by the draw 0", bySeed42(LAND + "snow 0;"), 0);
+        TRIAL.due("1, by the draw 0", bySeed42(LAND + "snow 1;"), 1);
         TRIAL.due("0", whole(3, LAND + "snow 0;").chance(100), 0);
         TRIAL.due("100", whole(3, LAND + "snow 100;").chance(100), 100);
         TRIAL.due("100, then 0", whole(4, LAND + "snow 100;snow 0;").chance(100), 0);
@@ -177,6 +189,13 @@ public final class TextEdgesTest {
         FoolTrade t = whole(3, LAND + "snow 100;");
         Trial.treaty(t, LAND);
         TRIAL.due("not that of the treaty ahead", t.chance(100), 0);
+    }
+
+    /** By the seed 42 x is 1250496027, by 64 that is 19539000: the draw is 0. */
+    private static int bySeed42(String text) {
+        FoolTrade t = Trial.by(text);
+        t.seed(42);
+        return t.chance(1);
     }
 
     private static void numbers() {

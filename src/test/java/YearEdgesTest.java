@@ -268,6 +268,8 @@ public final class YearEdgesTest {
         due("of b: 20+3-4", quarrelBehind(1, "harvest"), 19);
         due("the quarrel ahead of it", quarrelBehind(1, "quarrel*2"), 6);
         due("the YEAR of then", Trial.by(TWO + "fights year;").later(0, 3, 1), 2);
+        due("without people, too", Trial.by(LAND + "fights year;").later(0, 3, 1), 2);
+        due("without people, too", Trial.by(LAND + "fights harvest+quarrel+guests;").later(1, 2, 1), 43);
         TRIAL.about("I: guests: how many live in the VILLAGE whose they are not");
         due("r is in a", quarrelBehind(0, "guests"), 1);
         due("p is in b", quarrelBehind(1, "guests*7"), 7);
