@@ -493,7 +493,8 @@ public final class AheadEdgesTest {
         Trial.see(t, 1, 0, 0, 12);
         due("wits 4, 5", t.wits(0), 48);
         dueTells("both are left whatever it is", t, 1, 0, 2);
-        dueTells("one is left", seenGrowing(0, 1, 19), 1, 0, 1);
+        dueTells("one is left, 9", seenGrowing(0, 1, 19), 1, 0, 1);
+        dueTells("one is left, 0", seenGrowing(0, 1, 10), 1, 0, 1);
         TRIAL.about("tells: NONE without any, when no YEAR comes, there is none such, or for others");
         dueTells("without any", seenGrowing(0, 1, 9), NONE, NONE, NONE);
         dueTells("by rows beyond YEAR 999", seenGrowing(998, 2, 14), NONE, NONE, NONE);
