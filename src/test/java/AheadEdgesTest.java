@@ -345,6 +345,8 @@ public final class AheadEdgesTest {
                 due("from " + wits + " to " + goal, Trial.by(text.replace("?", "" + goal)).feign(0), goal);
             }
         }
+        due("not below 0", Trial.by(LAND + one("p", "a", 0, 0, 0) + "goose wits<0 or wits=3;").feign(0), 3);
+        due("not above 9", Trial.by(LAND + one("p", "a", 9, 0, 0) + "goose wits>9 or wits=6;").feign(0), 6);
         TRIAL.about("III: FEIGN: he would be SENT, and PASSED, in the next YEAR");
         due("p, the first, needs q's 4", Trial.by(LAND + one("p", "a", 9, 0, 0) + one("q", "a", 4, 0, 0)).feign(0), 4);
         due("q, the second, needs less than p's 4", Trial.by(LAND + one("p", "a", 4, 0, 0) + one("q", "a", 9, 0, 0)).feign(1), 3);

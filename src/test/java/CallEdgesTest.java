@@ -153,6 +153,14 @@ public final class CallEdgesTest {
         due("end(0)", t.end(0), true);
         due("ask() of none", t.ask(), NOTHING);
         due("its fault", t.fault(1), 0);
+        t.feed(0x20202020, 0x20202020, 0, 0, 0);
+        t.end(0);
+        due("treaty() of none, behind blanks", t.treaty(), NONE);
+        due("its fault", t.fault(1), 0);
+        t.feed(0x20202020, 0x20202020, 0, 0, 0);
+        t.end(1);
+        due("treaty() of one blank", t.treaty(), NONE);
+        due("its fault", t.fault(1), 1);
         t.feed(1, 2, 3, 4, 5);
         due("end(20)", t.end(20), true);
         due("end(19)", t.end(19), true);
@@ -340,6 +348,9 @@ public final class CallEdgesTest {
         TRIAL.about("ask: the tape goes; a question of 1600 bytes");
         TRIAL.wholeQuestion(t, " ".repeat(1591) + "often all", 4);
         due("end(1) of the tape that went", t.end(1), false);
+        for (String cut : new String[] {"o", "wit", "harves", "1234"}) {
+            TRIAL.questionFault(1, t, " ".repeat(1600 - 6 - cut.length()) + "most (" + (cut.equals("1234") ? "1234^" : "^" + cut));
+        }
         String ones = "total 1" + "+1".repeat(796);
         TRIAL.wholeQuestion(t, ones, 4 * 797);
         TRIAL.questionFault(1, t, "total 1" + "+1".repeat(796) + "+^");
