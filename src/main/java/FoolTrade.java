@@ -796,14 +796,6 @@ public final class FoolTrade {
             asking = question;
         }
 
-        boolean readTest() {
-            return either(0);
-        }
-
-        boolean readSum() {
-            return sum(0);
-        }
-
         private void put(int item) {
             if (code != null && size >= 0 && size < code.length) {
                 code[size] = item;
@@ -816,7 +808,8 @@ public final class FoolTrade {
             return true;
         }
 
-        private boolean either(int open) {
+        /** A TEST; open is how many levels are open around it. */
+        boolean readTest(int open) {
             boolean whole = both(open);
             for (int i = 0; i < TAPE && whole && tokens.isWord(OR); i++) {
                 tokens.next();
@@ -839,13 +832,13 @@ public final class FoolTrade {
                 return opens(open) && fact(open + 1) && done(SIGN_NOT);
             }
             if (tokens.isSign('[')) {
-                return opens(open) && either(open + 1) && tokens.takeSign(']');
+                return opens(open) && readTest(open + 1) && tokens.takeSign(']');
             }
             if (tokens.isWord(ALL)) {
                 tokens.next();
                 return done(1);
             }
-            if (!sum(open)) {
+            if (!readSum(open)) {
                 return false;
             }
             int sign = comparisonHere();
@@ -853,7 +846,7 @@ public final class FoolTrade {
                 return tokens.failHere();
             }
             tokens.next();
-            return sum(open) && done(sign);
+            return readSum(open) && done(sign);
         }
 
         private int comparisonHere() {
@@ -875,7 +868,8 @@ public final class FoolTrade {
             return true;
         }
 
-        private boolean sum(int open) {
+        /** A SUM; open is how many levels are open around it. */
+        boolean readSum(int open) {
             boolean whole = product(open);
             for (int i = 0; i < TAPE && whole && (tokens.isSign('+') || tokens.isSign('-')); i++) {
                 int sign = tokens.isSign('+') ? SIGN_PLUS : SIGN_MINUS;
@@ -900,7 +894,7 @@ public final class FoolTrade {
                 return tokens.takeNumber(TOP_NUMBER) && done(tokens.number);
             }
             if (tokens.isSign('(')) {
-                return opens(open) && sum(open + 1) && tokens.takeSign(')');
+                return opens(open) && readSum(open + 1) && tokens.takeSign(')');
             }
             if (tokens.isWord(MIN) || tokens.isWord(MAX)) {
                 int sign = tokens.isWord(MIN) ? SIGN_MIN : SIGN_MAX;
@@ -918,7 +912,7 @@ public final class FoolTrade {
             if (!tokens.isSign('(')) {
                 return tokens.failHere();
             }
-            return opens(open) && sum(open + 1) && tokens.takeSign(',') && sum(open + 1) && tokens.takeSign(')');
+            return opens(open) && readSum(open + 1) && tokens.takeSign(',') && readSum(open + 1) && tokens.takeSign(')');
         }
 
         private boolean slot() {
@@ -1022,7 +1016,7 @@ public final class FoolTrade {
             }
             int rule = word - SENDS;
             return beginRule(tokens, grammar, rule)
-                && (isTest(rule) ? grammar.readTest() : grammar.readSum())
+                && (isTest(rule) ? grammar.readTest(0) : grammar.readSum(0))
                 && endRule(grammar, rule);
         }
 
@@ -1845,7 +1839,7 @@ public final class FoolTrade {
             }
             tokens.next();
             grammar.begin(code, 0, SCOPE_QUESTION, true);
-            boolean whole = verb <= OFTEN ? grammar.readTest() : grammar.readSum();
+            boolean whole = verb <= OFTEN ? grammar.readTest(0) : grammar.readSum(0);
             size = grammar.size;
             return whole && (tokens.kind == KIND_END || tokens.failHere());
         }
