@@ -47,6 +47,7 @@ public final class FaceTest {
             TRIAL.due("the constructor " + c, Modifier.isPublic(c.getModifiers()) && c.getParameterCount() == 0, true);
         }
         inside(face, names);
+        limits(face);
         source();
         TRIAL.end("FaceTest");
     }
@@ -64,6 +65,46 @@ public final class FaceTest {
         }
     }
 
+    /** LANGUAGE 11: seven parameters, some twelve classes, some twenty fields beside the constants. */
+    private static void limits(Class<?> face) {
+        TRIAL.due("twelve classes at most", face.getDeclaredClasses().length < 12, true);
+        limitsOf(face);
+        for (Class<?> c : face.getDeclaredClasses()) {
+            limitsOf(c);
+        }
+    }
+
+    private static void limitsOf(Class<?> c) {
+        int fields = 0;
+        for (Field f : c.getDeclaredFields()) {
+            boolean constant = Modifier.isStatic(f.getModifiers()) && Modifier.isFinal(f.getModifiers());
+            TRIAL.due(f + " is static and no constant", Modifier.isStatic(f.getModifiers()) && !constant, false);
+            fields += constant ? 0 : 1;
+        }
+        TRIAL.due(c + " has twenty fields at most", fields <= 20, true);
+        for (Method m : c.getDeclaredMethods()) {
+            TRIAL.due(m + " takes seven at most", m.getParameterCount() <= 7, true);
+        }
+    }
+
+    /** LANGUAGE 11: methods stay short. */
+    private static void shortMethods(String text) {
+        Matcher m = Pattern.compile("(?ms)^( {4}| {8})(?! |if|for|while|switch|else|\\})([^\n]*\\)) \\{$(.*?)^\\1\\}$").matcher(text);
+        while (m.find()) {
+            TRIAL.due("lines of " + m.group(2) + ", sixty at most", m.group(3).split("\n").length <= 60, true);
+        }
+    }
+
+    /** LANGUAGE 12: all objects are made with the one object, so that no call makes any. */
+    private static void madeOnce(String text) {
+        for (String line : text.split("\n")) {
+            if (line.matches(".*\\bnew\\b.*")) {
+                boolean once = line.matches(" {4}(?: {4})?(private )?final \\S+ \\w+ = new .*;") || line.trim().equals("worlds[i] = new World();");
+                TRIAL.due("with the one object is made " + line.trim(), once, true);
+            }
+        }
+    }
+
     private static void source() throws Exception {
         Path path = Path.of("src/main/java/FoolTrade.java");
         if (!Files.exists(path)) {
@@ -71,6 +112,8 @@ public final class FaceTest {
             return;
         }
         String text = Files.readString(path).replaceAll("(?s)/\\*.*?\\*/", "").replaceAll("//[^\n]*", "").replaceAll("\"[^\"\n]*\"", "\"\"");
+        shortMethods(text);
+        madeOnce(text);
         Matcher m = Pattern.compile("\\b(throw|try|catch|synchronized|assert|import|package|var|Object|hashCode|toString|getClass|System\\.(?!arraycopy)|Exact)\\b|->|::|\\+ \"|\" \\+").matcher(text);
         while (m.find()) {
             TRIAL.due("the source has " + m.group(), false, true);
